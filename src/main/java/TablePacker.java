@@ -622,7 +622,14 @@ public final class TablePacker {
             join(0, START_ITEM, 1 << END);
             boolean more = true;
             for (int round = 0; more && round < ROUNDS; round++) {
-                more = spreadDueStates();
+                more = false;
+                for (int q = 0; q < states.size(); q++) {
+                    if (due[q]) {
+                        due[q] = false;
+                        more = true;
+                        spreadState(q);
+                    }
+                }
             }
         }
 
@@ -639,30 +646,14 @@ public final class TablePacker {
             }
         }
 
-        private boolean spreadDueStates() {
-            boolean any = false;
-            for (int q = 0; q < states.size(); q++) {
-                if (due[q]) {
-                    due[q] = false;
-                    any = true;
-                    spreadState(q);
-                }
-            }
-            return any;
-        }
-
+        // Rules that are not closed have no items in states, so the start can be told as the last rule.
         private void spreadState(int q) {
-            spreadRule(q, START);
-            for (int rule = 0; rule < grammar.rules(); rule++) {
-                spreadRule(q, rule);
-            }
-        }
-
-        private void spreadRule(int q, int rule) {
-            for (int place = 0; place < grammar.lengthOf(rule); place++) {
-                int item = rule * PLACES + place;
-                if (states.holds(q, item)) {
-                    spreadItem(q, item);
+            for (int rule = 0; rule <= START; rule++) {
+                for (int place = 0; place < grammar.lengthOf(rule); place++) {
+                    int item = rule * PLACES + place;
+                    if (states.holds(q, item)) {
+                        spreadItem(q, item);
+                    }
                 }
             }
         }
@@ -735,12 +726,10 @@ public final class TablePacker {
             return move >= SHIFT && move < ACCEPT ? move - SHIFT : NONE;
         }
 
-        @Override
         int moveOn(int q, int token) {
             return moves[q * COLUMNS + token];
         }
 
-        @Override
         int leadOf(int q, int kind) {
             return leadAt(q, TOKENS + kind);
         }
@@ -773,8 +762,8 @@ public final class TablePacker {
         private final int[] bases = new int[ROWS];
         // A row's number and its entry share an element.
         private final int[] places = new int[ROOM];
-        private final int[] tally = new int[STATES];
-        private final int[] spots = new int[STATES];
+        // How often a choice is met, while a default is sought; then the indexes of a row's entries.
+        private final int[] scratch = new int[STATES];
         private int size;
         private int entries;
         private int length;
@@ -829,13 +818,11 @@ public final class TablePacker {
             return isOwned(k) ? places[k] & ENTRY_MASK : NONE;
         }
 
-        @Override
         int moveOn(int q, int token) {
             int entry = lookUp(q, token);
             return entry != NONE ? entry : moveByDefault(q);
         }
 
-        @Override
         int leadOf(int q, int kind) {
             int entry = lookUp(STATES + kind, q);
             return entry != NONE ? entry : defaults[STATES + kind];
@@ -844,7 +831,8 @@ public final class TablePacker {
         // A place has one owner only: were it shared, one of its rows would not find its entry.
         boolean isSound() {
             for (int row = 0; row < ROWS; row++) {
-                for (int index = 0; index < widthOf(row); index++) {
+                int width = widthOf(row);
+                for (int index = 0; index < width; index++) {
                     if (lookUp(row, index) != entryOf(row, index)) {
                         return false;
                     }
@@ -859,7 +847,8 @@ public final class TablePacker {
 
         private int lookUp(int row, int index) {
             int at = bases[row] + index;
-            return bases[row] != NONE && ownerAt(at) == row ? entryAt(at) : NONE;
+            boolean found = bases[row] != NONE && isOwned(at) && places[at] >> ENTRY_BITS == row;
+            return found ? places[at] & ENTRY_MASK : NONE;
         }
 
         private int moveByDefault(int q) {
@@ -887,39 +876,38 @@ public final class TablePacker {
         }
 
         private int mostCommon(int row) {
-            Arrays.fill(tally, 0);
-            for (int index = 0; index < widthOf(row); index++) {
+            Arrays.fill(scratch, 0);
+            int width = widthOf(row);
+            for (int index = 0; index < width; index++) {
                 int choice = choiceAt(row, index);
                 if (choice != NONE) {
-                    tally[choice]++;
+                    scratch[choice]++;
                 }
             }
-            int best = NONE;
-            for (int choice = 0; choice < STATES; choice++) {
-                if (tally[choice] > (best == NONE ? 0 : tally[best])) {
+            int best = 0;
+            for (int choice = 1; choice < STATES; choice++) {
+                if (scratch[choice] > scratch[best]) {
                     best = choice;
                 }
             }
-            return best;
+            return scratch[best] > 0 ? best : NONE;
         }
 
         private int entryOf(int row, int index) {
-            int choice = choiceAt(row, index);
-            if (choice != NONE && choice == defaults[row]) {
-                return NONE;
-            }
             if (!isStateRow(row)) {
-                return choice;
+                int to = plain.leadOf(index, row - STATES);
+                return to == defaults[row] ? NONE : to;
             }
             int move = plain.moveOn(row, index);
-            return move == ERROR ? NONE : move;
+            return move == ERROR || move == moveByDefault(row) ? NONE : move;
         }
 
         private int findSpots(int row) {
             int found = 0;
-            for (int index = 0; index < widthOf(row); index++) {
+            int width = widthOf(row);
+            for (int index = 0; index < width; index++) {
                 if (entryOf(row, index) != NONE) {
-                    spots[found] = index;
+                    scratch[found] = index;
                     found++;
                 }
             }
@@ -947,7 +935,7 @@ public final class TablePacker {
 
         private boolean allFree(int base, int count) {
             for (int i = 0; i < count; i++) {
-                if (places[base + spots[i]] != FREE) {
+                if (places[base + scratch[i]] != FREE) {
                     return false;
                 }
             }
@@ -957,8 +945,8 @@ public final class TablePacker {
         private void seat(int row, int base) {
             bases[row] = base;
             for (int i = 0; i < counts[row]; i++) {
-                int at = base + spots[i];
-                places[at] = row << ENTRY_BITS | entryOf(row, spots[i]);
+                int at = base + scratch[i];
+                places[at] = row << ENTRY_BITS | entryOf(row, scratch[i]);
                 length = Math.max(length, at + 1);
             }
         }
