@@ -869,7 +869,7 @@ public final class TablePacker {
         /** What the row's default could be at an index: a rule, or the state to which a kind leads. */
         private int choiceAt(int row, int index) {
             if (!isStateRow(row)) {
-                return plain.leadOf(index, row - STATES);
+                return plain.leadAt(index, TOKENS + row - STATES);
             }
             int move = plain.moveOn(row, index);
             return move >= REDUCE ? move - REDUCE : NONE;
@@ -895,7 +895,7 @@ public final class TablePacker {
 
         private int entryOf(int row, int index) {
             if (!isStateRow(row)) {
-                int to = plain.leadOf(index, row - STATES);
+                int to = plain.leadAt(index, TOKENS + row - STATES);
                 return to == defaults[row] ? NONE : to;
             }
             int move = plain.moveOn(row, index);
