@@ -109,7 +109,8 @@ final class Naive {
             for (Item item : states.get(q)) {
                 Integer symbol = symbolBehind(item);
                 if (symbol != null) {
-                    cores.computeIfAbsent(symbol, s -> new LinkedHashSet<>()).add(new Item(item.rule(), item.place() + 1));
+                    Item further = new Item(item.rule(), item.place() + 1);
+                    cores.computeIfAbsent(symbol, s -> new LinkedHashSet<>()).add(further);
                 }
             }
             leads.add(new TreeMap<>());

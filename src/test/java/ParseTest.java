@@ -97,27 +97,8 @@ public final class ParseTest {
         }
     }
 
-    /** Parts of a row, by their first tokens: 1 takes 3 steps, 2 takes 4, 4 takes 24; and one step for none. */
-    private static TablePacker parts() {
-        TablePacker x = new TablePacker();
-        Due.rule(x, 0, 20, 21);
-        Due.rule(x, 0);
-        Due.rule(x, 1, 1);
-        Due.rule(x, 1, 2, 23);
-        Due.rule(x, 1, 4, 22, 22, 22);
-        Due.rule(x, 1, 5, 6);
-        Due.rule(x, 2, 23, 23, 23, 23, 23, 23);
-        Due.rule(x, 3);
-        for (int i = 0; i < 83; i++) {
-            x.token(4);
-        }
-        return x;
-    }
-
     private static void just2000Steps() {
-        TablePacker x = parts();
-        x.token(1);
-        x.token(2);
+        TablePacker x = Due.parts(83, 1, 2);
         for (int which = 0; which < 2; which++) {
             Due.due("2000 steps: parse(" + which + ")", x.parse(which), 0);
             ended("2000 steps", x, 1915, 85, 2);
@@ -125,17 +106,12 @@ public final class ParseTest {
     }
 
     private static void oneStepMore() {
-        TablePacker x = parts();
-        x.token(2);
-        x.token(2);
+        TablePacker x = Due.parts(83, 2, 2);
         for (int which = 0; which < 2; which++) {
             Due.due("one reduction more: parse(" + which + ")", x.parse(which), 2);
             ended("one reduction more", x, 1915, 85, 3);
         }
-        x = parts();
-        x.token(1);
-        x.token(2);
-        x.token(1);
+        x = Due.parts(83, 1, 2, 1);
         for (int which = 0; which < 2; which++) {
             Due.due("one shift more: parse(" + which + ")", x.parse(which), 2);
             ended("one shift more", x, 1915, 85, 2);
@@ -143,23 +119,15 @@ public final class ParseTest {
     }
 
     private static void anErrorAfter2000Steps() {
-        TablePacker x = parts();
-        x.token(1);
-        x.token(1);
-        x.token(5);
+        TablePacker x = Due.parts(83, 1, 1, 5);
         for (int which = 0; which < 2; which++) {
             Due.due("an error after 2000 steps: parse(" + which + ")", x.parse(which), 1);
             ended("an error after 2000 steps", x, 1914, 86, 3);
         }
     }
 
-    // The empty rule goes before the other one, and comes again and again.
     private static void withoutEnd() {
-        TablePacker x = new TablePacker();
-        Due.rule(x, 1);
-        Due.rule(x, 0, 21, 20, 1);
-        Due.rule(x, 0);
-        Due.tokens(x, 1);
+        TablePacker x = Due.endless();
         for (int which = 0; which < 2; which++) {
             Due.due("without end: parse(" + which + ")", x.parse(which), 2);
             ended("without end", x, 2000, 0, 2001);
