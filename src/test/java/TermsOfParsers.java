@@ -84,6 +84,12 @@ final class TermsOfParsers {
         x.drop();
         Due.due("nor with END: parse(1)", x.parse(1), 1);
         Due.parsed(x, 0, 0, 1);
+        x.clear();
+        Due.rule(x, 0, 1);
+        Due.rule(x, 0, 2, 3);
+        Due.tokens(x, 2, 9);
+        Due.due("nor has the state behind 2: parse(1)", x.parse(1), 1);
+        Due.parsed(x, 0, 1, 2);
     }
 
     private static void shiftGoesToTheNextToken() {
