@@ -1,8 +1,13 @@
+import java.io.IOException;
 import java.lang.reflect.Constructor;
 import java.lang.reflect.Field;
 import java.lang.reflect.Method;
 import java.lang.reflect.Modifier;
+import java.nio.file.Files;
+import java.nio.file.Path;
 import java.util.TreeSet;
+import java.util.regex.Matcher;
+import java.util.regex.Pattern;
 
 /** The public face, the constants, and rules 1 and 5 of the language as far as the class itself tells them. */
 public final class FaceTest {
@@ -10,7 +15,10 @@ public final class FaceTest {
         + " drop() first(int) parse(int) parsed(int) place(int,int) put(int) reduction(int) row(int,int) state(int,int)"
         + " token(int)";
 
-    public static void main(String[] args) {
+    private static final Path DOCUMENT = Path.of("..", "shared", "DOC.md");
+    private static final Pattern METHOD = Pattern.compile("public int (\\w+)\\(([^)]*)\\);");
+
+    public static void main(String[] args) throws IOException {
         Due.due("NONE", TablePacker.NONE, -1);
         Due.due("FULL", TablePacker.FULL, -2);
         int modifiers = TablePacker.class.getModifiers();
@@ -21,7 +29,20 @@ public final class FaceTest {
         Due.due("one public constructor without parameters", constructors.length == 1
             && Modifier.isPublic(constructors[0].getModifiers()) && constructors[0].getParameterCount() == 0);
         classesInside();
+        if (Files.isReadable(DOCUMENT)) {
+            faceIsTheDocuments(Files.readString(DOCUMENT));
+        }
         Due.end();
+    }
+
+    private static void faceIsTheDocuments(String document) {
+        TreeSet<String> told = new TreeSet<>();
+        Matcher methods = METHOD.matcher(document);
+        while (methods.find()) {
+            told.add(methods.group(1) + "(" + methods.group(2).replaceAll("int \\w+", "int").replace(" ", "") + ")");
+        }
+        Due.due("the document's section 'The public face' has these methods: " + told,
+            String.join(" ", told).equals(FACE));
     }
 
     private static void methodsAreTheFace() {

@@ -264,19 +264,45 @@ final class PromisesOnParsing {
         Due.due("with an open rule: check()", x.check(), 1);
     }
 
-    // A check that never tells 0 has no other test than the one that what it tells is so.
+    // No call makes tables that are not sound, so they are broken from inside, one number at a time.
     private static void promise18ItWouldTell0() {
         Sentence.of("Promise 18", "it would tell 0.");
-        TablePacker x = Due.sums();
-        Due.due("check()", x.check(), 1);
-        int found = 0;
-        for (int r = 0; r < 108; r++) {
-            int width = r < 100 ? 14 : 12;
-            int base = x.row(r, 2);
-            for (int index = 0; base >= 0 && index < width; index++) {
-                found += x.place(base + index, 0) == r ? 1 : 0;
+        for (TablePacker x : new TablePacker[] {new TablePacker(), Due.sums(), Due.parts(0)}) {
+            Due.due("check()", x.check(), 1);
+            int[] places = Inside.numbers(x, "packed", "places");
+            int[] bases = Inside.numbers(x, "packed", "bases");
+            int length = x.count(5);
+            for (int k = 0; k < length; k++) {
+                if (x.place(k, 0) != -1) {
+                    told0WithOther(x, "an entry that is not found, place " + k, places, k, -1);
+                    told0WithOther(x, "another entry, place " + k, places, k, places[k] ^ 1);
+                    told0WithOther(x, "a place of another row, place " + k, places, k, places[k] ^ 1 << 12);
+                }
             }
+            for (int r = 0; r < bases.length; r++) {
+                if (x.row(r, 1) > 0) {
+                    told0WithOther(x, "another base, row " + r, bases, r, bases[r] + 1);
+                    told0WithOther(x, "no base, row " + r, bases, r, -1);
+                }
+            }
+            Due.due("as it was again: check()", x.check(), 1);
         }
-        Due.due("each entry is found by its row, and no other", found, x.count(4));
+        oneThatIsNoEntryIsFound();
+    }
+
+    private static void oneThatIsNoEntryIsFound() {
+        TablePacker x = new TablePacker();
+        Due.rule(x, 0, 13);
+        Due.due("place 5 is no row's: place(5, 0)", x.place(5, 0), -1);
+        int[] places = Inside.numbers(x, "packed", "places");
+        told0WithOther(x, "token 5 of row 0 is no entry, but found", places, 5, 1001);
+        Due.due("check()", x.check(), 1);
+    }
+
+    private static void told0WithOther(TablePacker x, String what, int[] numbers, int at, int other) {
+        int before = numbers[at];
+        numbers[at] = other;
+        Due.due(what + ": check()", x.check(), 0);
+        numbers[at] = before;
     }
 }

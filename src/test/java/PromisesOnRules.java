@@ -7,7 +7,6 @@ final class PromisesOnRules {
     }
 
     static void all() {
-        calls512();
         promise1NoRulesNoTokens();
         promise2OneMoreRule();
         promise2NoneWhenOneIsOpen();
@@ -38,20 +37,6 @@ final class PromisesOnRules {
         promise8FullFor2To5();
         promise9TokensByBits();
         promise9NoSuchKind();
-    }
-
-    private static void calls512() {
-        Sentence.of("What it is", "An object is used for at most 512 calls after it has been made;");
-        TablePacker x = new TablePacker();
-        for (int i = 1; i <= 511; i++) {
-            Due.due("call " + i + ": clear()", x.clear(), 0);
-        }
-        Due.due("call 512: count(2)", x.count(2), 2);
-        x = Due.sums();
-        int calls = 6 * 2 + 12;
-        for (int i = calls + 1; i <= 512; i++) {
-            Due.due("call " + i + ": count(5)", x.count(5), 17);
-        }
     }
 
     private static void promise1NoRulesNoTokens() {

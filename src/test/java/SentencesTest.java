@@ -3,6 +3,7 @@ public final class SentencesTest {
     private static final int PROMISES = 18;
 
     public static void main(String[] args) {
+        WhatItIs.all();
         TermsOfGrammars.all();
         TermsOfTables.all();
         TermsOfPacking.all();
@@ -10,7 +11,7 @@ public final class SentencesTest {
         PromisesOnRules.all();
         PromisesOnTables.all();
         PromisesOnParsing.all();
-        Sentence.allOf("Terms");
+        Sentence.allOf("What it is", "Terms");
         for (int promise = 1; promise <= PROMISES; promise++) {
             Sentence.allOf("Promise " + promise);
         }
