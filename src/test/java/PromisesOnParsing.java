@@ -297,6 +297,9 @@ final class PromisesOnParsing {
         int[] places = Inside.numbers(x, "packed", "places");
         told0WithOther(x, "token 5 of row 0 is no entry, but found", places, 5, 1001);
         Due.due("check()", x.check(), 1);
+        places[5] = 1001;
+        Due.rule(x, 0, 12);
+        Due.due("one rule more, and the tables are made anew: check()", x.check(), 1);
     }
 
     private static void told0WithOther(TablePacker x, String what, int[] numbers, int at, int other) {

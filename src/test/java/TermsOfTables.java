@@ -55,6 +55,14 @@ final class TermsOfTables {
         Due.rule(x, 3, 7);
         Due.due("an item that has no token itself: ahead(1, 1, 1)", x.ahead(1, 1, 1), 0);
         Due.due("what is behind it all the same: ahead(1, 2, 0)", x.ahead(1, 2, 0), 1 << 5);
+        x.clear();
+        Due.rule(x, 0, 21);
+        Due.rule(x, 0, 22);
+        Due.rule(x, 1, 1, 21, 2);
+        Due.rule(x, 1, 3);
+        Due.rule(x, 2, 1, 4);
+        Due.due("a rule at its beginning: ahead(1, 2, 0)", x.ahead(1, 2, 0), 1 << 2);
+        Due.due("the same rule further on in that state has what it had: ahead(1, 2, 1)", x.ahead(1, 2, 1), 1);
     }
 
     private static void ifTheRowBehindCanBeEmptyWhatTheItemHas() {
