@@ -233,6 +233,14 @@ final class PromisesOnRules {
         Due.rule(x, 0);
         Due.rule(x, 1, 9);
         Due.due("it brings none any more: state(0, 0)", x.state(0, 0), 2);
+        x.clear();
+        Due.rule(x, 0, 1, 2, 3);
+        Due.rule(x, 0, 1, 2, 3);
+        Due.due("five states: count(2)", x.count(2), 5);
+        x.clear();
+        Due.rule(x, 0, 1);
+        Due.rule(x, 7, 5, 5, 5);
+        Due.due("nothing leads on from those of earlier rules: count(2)", x.count(2), 3);
     }
 
     private static void promise5TokensStay() {

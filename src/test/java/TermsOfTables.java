@@ -149,6 +149,12 @@ final class TermsOfTables {
         Due.due("a kind that begins with itself alone: first(4)", x.first(4), 0);
         Due.rule(x, 4);
         Due.due("and can be empty: first(4)", x.first(4), 1 << 6);
+        x.clear();
+        Due.rule(x, 0);
+        Due.rule(x, 0, 20, 1);
+        Due.rule(x, 1, 20, 2);
+        Due.rule(x, 0, 3);
+        Due.due("a token of a rule told later too: first(1)", x.first(1), 1 << 1 | 1 << 2 | 1 << 3);
     }
 
     private static void shift() {
